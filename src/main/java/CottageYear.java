@@ -1098,6 +1098,8 @@ public final class CottageYear {
         private final int[] labelLeft = new int[SETS * MOST_JOBS * LABELS];
         private final long[] labelSpent = new long[SETS * MOST_JOBS * LABELS];
         private final int[] labelCount = new int[SETS * MOST_JOBS];
+        /** BEST costs no more than this. */
+        private long ceiling;
         private long bestCost;
         private final int[] bestRows = new int[MOST_TEAMS];
         boolean known;
@@ -1170,52 +1172,120 @@ public final class CottageYear {
                 costs[t * SETS] = 0;
                 rows[t * SETS] = EMPTY_ROW;
             }
+            ceiling = Math.min(costAtHand(jobs, teams, now), costInHaste(jobs, teams, now));
             for (int t = 0; t < teamCount; t++) {
-                searchFor(teams[t], jobs, now);
-            }
-            for (int t = 0; t < teamCount; t++) {
-                addMoved(t);
+                Arrays.fill(labelCount, 0);
+                start(teams[t], 0, jobs, now);
+                packed[0] = EMPTY_ROW;
+                lengthen(teams[t], 0, 0);
             }
             share();
             known = true;
         }
 
-        private void searchFor(Team team, Job[] jobs, int now) {
-            Arrays.fill(labelCount, 0);
-            time[0] = team.freeAt(jobs, now);
-            place[0] = team.place;
-            left[0] = team.left;
-            packed[0] = EMPTY_ROW;
-            spent[0] = 0;
-            lengthen(team, 0, 0);
+        private void start(Team team, int at, Job[] jobs, int now) {
+            time[at] = team.freeAt(jobs, now);
+            place[at] = team.place;
+            left[at] = team.left;
+            spent[at] = 0;
+        }
+
+        /** What the PLAN at hand costs now: BEST costs no more. */
+        private long costAtHand(Job[] jobs, Team[] teams, int now) {
+            for (int k = 0; k < todoCount; k++) {
+                if (before[k] == NONE) {
+                    return FAR;
+                }
+            }
+            long cost = 0;
+            for (int t = 0; t < teamCount; t++) {
+                start(teams[t], 0, jobs, now);
+                for (int i = 0; i < teams[t].rowLength; i++) {
+                    int k = indexOf(teams[t].row[i]);
+                    if (k == NONE) {
+                        return FAR;
+                    }
+                    putBehind(teams[t], i, i + 1, k);
+                }
+                cost += spent[teams[t].rowLength];
+            }
+            return cost;
+        }
+
+        private int indexOf(int cottage) {
+            for (int k = 0; k < todoCount; k++) {
+                if (todo[k].cottage == cottage) {
+                    return k;
+                }
+            }
+            return NONE;
+        }
+
+        /** What a PLAN costs that takes, again and again, the JOB that is soonest done: BEST costs no more. */
+        private long costInHaste(Job[] jobs, Team[] teams, int now) {
+            long cost = 0;
+            for (int t = 0; t < teamCount; t++) {
+                start(teams[t], t, jobs, now);
+            }
+            int all = (1 << todoCount) - 1;
+            int done = 0;
+            for (int i = 0; i < todoCount && teamCount > 0; i++) {
+                done |= 1 << takeSoonest(teams, all & ~done);
+            }
+            for (int t = 0; t < teamCount; t++) {
+                cost += spent[t];
+            }
+            return cost;
+        }
+
+        private int takeSoonest(Team[] teams, int open) {
+            int soonest = 0;
+            int by = 0;
+            int least = Integer.MAX_VALUE;
+            for (int k = 0; k < todoCount; k++) {
+                for (int t = 0; t < teamCount && (open >>> k & 1) != 0; t++) {
+                    putBehind(teams[t], t, MOST_TEAMS, k);
+                    int when = time[MOST_TEAMS] + todo[k].due;
+                    if (when < least) {
+                        least = when;
+                        soonest = k;
+                        by = t;
+                    }
+                }
+            }
+            putBehind(teams[by], by, by, soonest);
+            return soonest;
         }
 
         /** Tries the rows in their order, so that of like rows of one set the first one stays. */
         private void lengthen(Team team, int many, int set) {
             for (int k = 0; k < todoCount && many < MOST_JOBS; k++) {
                 int more = set | 1 << k;
-                if (more != set) {
-                    putBehind(team, many, k);
-                    if (!isIdle(more, k, many + 1)) {
-                        keepRow(team.number * SETS + more, many + 1);
-                        lengthen(team, many + 1, more);
-                    }
+                if (more == set) {
+                    continue;
+                }
+                putBehind(team, many, many + 1, k);
+                if (spent[many + 1] <= ceiling && !isIdle(more, k, many + 1)) {
+                    int shift = shiftOf(many);
+                    packed[many + 1] = packed[many] & ~(ROW_END << shift) | k << shift;
+                    keepRow(team.number * SETS + more, many + 1);
+                    lengthen(team, many + 1, more);
                 }
             }
         }
 
-        private void putBehind(Team team, int many, int k) {
+        /** Puts a JOB behind a row that stands at one place of the arrays; what comes of it stands at another. */
+        private void putBehind(Team team, int at, int to, int k) {
             Job job = todo[k];
-            boolean byBase = left[many] < job.linen;
-            int minutes = roads.minutes(place[many], 1 + job.cottage, byBase);
-            int ready = Math.max(time[many] + minutes, job.out) + job.clean;
+            boolean byBase = left[at] < job.linen;
+            boolean isMoved = before[k] != NONE && before[k] != team.number;
+            int minutes = roads.minutes(place[at], 1 + job.cottage, byBase);
+            int ready = Math.max(time[at] + minutes, job.out) + job.clean;
             long late = Math.max(0, ready - job.due);
-            int shift = shiftOf(many);
-            time[many + 1] = ready;
-            place[many + 1] = 1 + job.cottage;
-            left[many + 1] = (byBase ? team.load : left[many]) - job.linen;
-            spent[many + 1] = spent[many] + (late << LATE_SHIFT) + minutes;
-            packed[many + 1] = packed[many] & ~(ROW_END << shift) | k << shift;
+            time[to] = ready;
+            place[to] = 1 + job.cottage;
+            left[to] = (byBase ? team.load : left[at]) - job.linen;
+            spent[to] = spent[at] + (late << LATE_SHIFT) + (isMoved ? 1 << MOVED_SHIFT : 0) + minutes;
         }
 
         /**
@@ -1246,22 +1316,9 @@ public final class CottageYear {
             }
         }
 
-        private void addMoved(int team) {
-            int others = 0;
-            for (int k = 0; k < todoCount; k++) {
-                if (before[k] != NONE && before[k] != team) {
-                    others |= 1 << k;
-                }
-            }
-            for (int set = 0; set < SETS; set++) {
-                long movedJobs = Integer.bitCount(set & others);
-                costs[team * SETS + set] += movedJobs << MOVED_SHIFT;
-            }
-        }
-
         private void share() {
             int all = (1 << todoCount) - 1;
-            bestCost = FAR;
+            bestCost = ceiling + 1;
             for (int set = 0; set <= all; set++) {
                 if (costs[set] <= bestCost) {
                     shareOthers(set, all & ~set, all);

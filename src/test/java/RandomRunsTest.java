@@ -3,20 +3,20 @@ import java.util.Random;
 
 /** Random runs of calls, each answer compared with the Oracle's. Arguments: first seed, runs (for a longer hunt). */
 public final class RandomRunsTest {
-    private static final int CALLS = 512;
-
     private final Random random;
     private final CottageYear year = new CottageYear();
     private final Oracle oracle = new Oracle();
     private final StringBuilder story = new StringBuilder();
     private final int flavour;
+    /** Some runs go on behind the document's 512 calls, to come to its other limits. */
+    private final int most;
     private int calls;
     private boolean wrong;
-    private long differentLines;
 
     private RandomRunsTest(long seed) {
         random = new Random(seed);
         flavour = (int) (seed % 4);
+        most = seed % 5 == 0 ? 3000 : 512;
     }
 
     public static void main(String[] args) {
@@ -84,18 +84,82 @@ public final class RandomRunsTest {
 
     private void go() {
         setUp();
-        while (calls < CALLS && !wrong) {
-            int kind = random.nextInt(100);
-            if (kind < 24) {
-                bookings();
-            } else if (kind < 62) {
-                day();
-            } else if (kind < 74) {
-                wages();
-            } else if (kind < 88) {
-                books();
+        for (int turn = 0; calls < most && turn < 5000 && !wrong; turn++) {
+            if (flavour == 0) {
+                anything();
             } else {
-                looksAround();
+                oneWeek(flavour == 1 ? 1 : 4 * flavour);
+            }
+        }
+    }
+
+    private void anything() {
+        int kind = random.nextInt(100);
+        if (kind < 24) {
+            bookings();
+        } else if (kind < 62) {
+            day();
+        } else {
+            beside();
+        }
+    }
+
+    private void beside() {
+        int kind = random.nextInt(38);
+        if (kind < 12) {
+            wages();
+        } else if (kind < 26) {
+            books();
+        } else {
+            looksAround();
+        }
+    }
+
+    /** A WEEK in its order: BOOKINGS, an opened DAY with PLANS, and its closing. */
+    private void oneWeek(int busy) {
+        for (int c = 0; c < oracle.cs.size() && !wrong; c++) {
+            int guests = 1 + random.nextInt(oracle.cs.get(c).beds);
+            boolean dog = oracle.cs.get(c).dogs && random.nextBoolean();
+            if (random.nextInt(8) > (busy == 1 ? 6 : 1)) {
+                due("book " + c + " " + oracle.w + " " + guests + " " + dog + " 30", year.book(c, oracle.w, guests, dog, 30), oracle.book(c, oracle.w, guests, dog, 30));
+            }
+        }
+        for (int i = random.nextInt(busy); i > 0; i--) {
+            bookings();
+        }
+        due("openDay", year.openDay(), oracle.openDay());
+        if (random.nextBoolean()) {
+            disturb();
+        }
+        for (int i = 0; i < busy && !wrong; i++) {
+            due("best 0", year.best(0), oracle.best(0));
+            due("best 1", year.best(1), oracle.best(1));
+            due("best 2", year.best(2), oracle.best(2));
+            if (i == 0 || random.nextBoolean()) {
+                due("plan", year.plan(), oracle.plan());
+                rows();
+            }
+            int n = busy == 1 ? 500 : 40 + random.nextInt(2000 / busy);
+            due("tick " + n, year.tick(n), oracle.tick(n));
+            if (random.nextBoolean()) {
+                day();
+            }
+            beside();
+        }
+        if (busy == 1) {
+            due("tick 500", year.tick(500), oracle.tick(500));
+        }
+        due("closeDay", year.closeDay(), oracle.closeDay());
+        beside();
+    }
+
+    private void disturb() {
+        for (int c = 0; c < oracle.cs.size(); c++) {
+            int out = 600 + random.nextInt(400), minutes = 50 + random.nextInt(350);
+            if (random.nextBoolean()) {
+                due("late " + c + " " + out, year.late(c, out), oracle.late(c, out));
+            } else {
+                due("state " + c + " " + minutes, year.state(c, minutes), oracle.state(c, minutes));
             }
         }
     }
