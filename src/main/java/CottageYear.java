@@ -41,9 +41,8 @@ public final class CottageYear {
     private final Job[] jobs = new Job[MOST_COTTAGES];
     private long codeStep = 1;
 
-    private final Roads roads = new Roads();
     private final Moves mover = new Moves();
-    private final Planner planner = new Planner(roads);
+    private final Planner planner = new Planner();
     private final Laundry laundry = new Laundry();
     private final Books books = new Books();
     private final Wages wages = new Wages();
@@ -164,7 +163,7 @@ public final class CottageYear {
         if (!places || !within(minutes, 0, 90)) {
             return false;
         }
-        roads.tell(one, other, minutes);
+        planner.roads.tell(one, other, minutes);
         planner.forget();
         return true;
     }
@@ -173,7 +172,7 @@ public final class CottageYear {
         if (!within(minutes, 0, 60)) {
             return false;
         }
-        roads.loading = minutes;
+        planner.roads.loading = minutes;
         planner.forget();
         return true;
     }
@@ -256,7 +255,7 @@ public final class CottageYear {
         for (int i = 0; i < n; i++) {
             now++;
             for (int t = 0; t < teamCount; t++) {
-                teams[t].passMinute(jobs, roads, now);
+                teams[t].passMinute(jobs, planner.roads, now);
             }
         }
         if (n > 0) {
@@ -1079,7 +1078,7 @@ public final class CottageYear {
         private static final int EMPTY_ROW = (1 << 3 * MOST_JOBS) - 1;
         private static final int ROW_END = 7;
 
-        private final Roads roads;
+        final Roads roads = new Roads();
         private final Job[] todo = new Job[MOST_JOBS];
         private int todoCount;
         /** In whose row each JOB is in the PLAN at hand. */
@@ -1103,10 +1102,6 @@ public final class CottageYear {
         private long bestCost;
         private final int[] bestRows = new int[MOST_TEAMS];
         boolean known;
-
-        Planner(Roads roads) {
-            this.roads = roads;
-        }
 
         void forget() {
             known = false;

@@ -12,9 +12,11 @@ public final class BooksTest {
         lost();
         kept();
         complain();
+        complainByAMinute();
         complainAtMost();
         blamed();
         draw();
+        drawByLateness();
         drawByBlame();
         code();
         codesDiffer();
@@ -63,6 +65,15 @@ public final class BooksTest {
         due("36 refused", year.kept(0), 300);
         due("36 the other", year.worth(2, 7), true);
         due("36 kept by both", year.kept(0), 314);
+        CottageYear middle = Check.threeCottages();
+        middle.book(0, 0, 1, false, 1000);
+        middle.look(0, 10, 50, 3);
+        middle.openDay();
+        middle.look(0, 11, 30, 3);
+        due("36 one at first", middle.kept(0), 20);
+        due("37 thing 1", middle.lost(0, 1), 20);
+        due("36 thing 1", middle.worth(1, 3), true);
+        due("36 by three", middle.kept(0), 60);
     }
 
     /** A LOOK, a STAY with a DEPOSIT, a LOOK: 3 lost of thing 0, one more of thing 1, 2 lost of thing 2. */
@@ -166,6 +177,38 @@ public final class BooksTest {
         due("39 later", year.complain(2, 0), 0);
         due("40 blamed for dirt", year.blamed(0, 0), 2);
         due("40 blamed for late", year.blamed(0, 1), 1);
+    }
+
+    /** A JOB that is LATE by one minute, and one that is READY just in time. */
+    private static void complainByAMinute() {
+        for (int out = 907; out < 909; out++) {
+            CottageYear year = Check.threeCottages();
+            year.team(12);
+            year.book(1, 0, 2, false, 0);
+            year.book(1, 1, 2, false, 0);
+            Check.pass(year, 1);
+            year.openDay();
+            year.late(1, out + 7);
+            year.plan();
+            year.tick(500);
+            year.tick(500);
+            due("24 late", year.job(1, 1, 6), out - 907);
+            due("39 late", year.complain(1, 1), out == 907 ? NONE : 0);
+            due("40 late", year.blamed(0, 1), out - 907);
+        }
+    }
+
+    private static void drawByLateness() {
+        CottageYear year = twoJobs();
+        year.tick(23);
+        year.complain(2, 1);
+        year.complain(2, 1);
+        year.complain(2, 0);
+        year.complain(3, 0);
+        int[] weights = {4, 2};
+        for (long seed = 0; seed < 40; seed++) {
+            due("41 draw(1, " + seed + ")", year.draw(1, seed), 1 << pick(weights, 0, seed * TIMES + PLUS >>> 33));
+        }
     }
 
     private static void complainAtMost() {
@@ -351,7 +394,9 @@ public final class BooksTest {
         due("44 in force", year.count(5), 5);
         year.closeDay();
         due("44 none left out", year.count(12), 0);
-        Check.pass(year, 1);
+        year.openDay();
+        due("44 none is left out till it is closed", year.count(12), 0);
+        year.closeDay();
         due("44 three left out", year.count(12), 3);
         due("44 late stays", year.count(13), 53);
     }

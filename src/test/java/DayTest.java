@@ -19,6 +19,8 @@ public final class DayTest {
         bestMoved();
         bestBusyTeams();
         bestTies();
+        bestOnTheWay();
+        exactLoad();
         plan();
         row();
         tick();
@@ -142,6 +144,7 @@ public final class DayTest {
         year.plan();
         year.tick(500);
         year.tick(200);
+        due("16 none is left out till it is closed", year.count(12), 0);
         due("16 no lines without terms", year.closeDay(), 0);
         due("16 none is open", year.closeDay(), NONE);
         due("16 W", year.count(0), 2);
@@ -289,6 +292,57 @@ public final class DayTest {
         due("19 then the second cottage to the second team", split.row(1, 0), 1);
         due("19 the third to the third team", split.row(2, 0), 2);
         due("19 as nobody has time for two", split.row(0, 1), NONE);
+    }
+
+    private static void bestOnTheWay() {
+        CottageYear year = openedDay(20, 20);
+        due("19 three ways", year.best(2), 30);
+        year.way(0, 1, 90);
+        year.way(0, 2, 40);
+        year.way(0, 3, 40);
+        year.way(1, 2, 1);
+        year.way(2, 3, 1);
+        year.way(3, 1, 90);
+        year.plan();
+        due("20 the shortest way round", year.row(0, 0), 2);
+        year.tick(1);
+        due("19 one of them was gone to in this minute", year.best(2), 2);
+        due("23 on its way", ask(year, 0, 0), 1);
+        for (int c = 0; c < 3; c++) {
+            year.late(c, 1);
+            year.state(c, 400);
+        }
+        // there at 41, READY at 441, then 842 and 1243; or the last one to the other TEAM, which is 90 away
+        due("19 none late", year.best(0), 0);
+        due("19 one moved", year.best(1), 1);
+        due("19 minutes", year.best(2), 91);
+        year.state(2, 118);
+        // on at 41 + 118: 560, 961
+        due("19 a minute late, as it will be there at 41", year.best(1), 1);
+        year.state(2, 117);
+        due("19 just in time, as it will be there at 41", year.best(1), 0);
+    }
+
+    private static void exactLoad() {
+        CottageYear year = new CottageYear();
+        year.cottage(12, true, 100, 10);
+        year.cottage(12, true, 100, 10);
+        year.team(12);
+        year.team(13);
+        for (int c = 0; c < 2; c++) {
+            year.book(c, 0, 1, false, 0);
+            year.book(c, 1, 6 + c, false, 0);
+        }
+        year.way(1, 2, 3);
+        Check.pass(year, 1);
+        year.openDay();
+        year.plan();
+        due("20 13 sets are just enough", year.row(1, 1), 1);
+        due("19 so it goes straight on", year.best(2), 13);
+        year.tick(500);
+        year.tick(200);
+        due("23 none is left", ask(year, 1, 3), 0);
+        due("24 straight on", year.job(1, 1, 8), 3);
     }
 
     private static void plan() {

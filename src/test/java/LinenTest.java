@@ -6,6 +6,7 @@ public final class LinenTest {
     public static void main(String[] args) {
         linen();
         sets();
+        washedAtFirst();
         laundryLags();
         hired();
         fewest();
@@ -77,6 +78,14 @@ public final class LinenTest {
         dueSets(year, "washed", 15, 5, 0, 0, 0);
     }
 
+    private static void washedAtFirst() {
+        CottageYear year = guests(12);
+        Check.pass(year, 2);
+        dueSets(year, "twelve dirty", 8, 0, 12, 0, 0);
+        year.openDay();
+        dueSets(year, "ten are washed", 18, 0, 2, 0, 0);
+    }
+
     private static void laundryLags() {
         CottageYear year = guests(12, 0, 12);
         year.linen(30, 5);
@@ -124,6 +133,13 @@ public final class LinenTest {
         due("27 as if none was shut", year.fewest(), 10);
         Check.pass(year, 3);
         due("27 also of weeks that were", year.fewest(), 10);
+        due("27 ten a week at first", guests(12, 0, 12).fewest(), 14);
+        CottageYear slow = guests(12, 0, 2, 0, 12);
+        slow.linen(0, 4);
+        // 12 dirty, 4 a week are washed in weeks 2, 3 and 4, and the 2 are not yet
+        due("27 what is washed is no more dirty", slow.fewest(), 12 + 2 - 12 + 12);
+        CottageYear last = guests(5, 0, 1, 0, 12);
+        due("27 one only comes back for the last week", last.fewest(), 12);
         CottageYear gap = guests(9, 0, 9);
         due("27 washed in between", gap.fewest(), 9);
         gap.linen(0, 5);

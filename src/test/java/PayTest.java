@@ -45,6 +45,11 @@ public final class PayTest {
         year.end(119);
         due("28 not a part of it", year.feed(0, 0, 0, 0, 0x3131), NONE);
         due("44 bytes of the tape", year.count(14), 119);
+        for (int i = 0; i < 5; i++) {
+            int[] words = new int[5];
+            words[i] = 0x01000001;
+            due("28 each number counts", year.feed(words[0], words[1], words[2], words[3], words[4]), NONE);
+        }
     }
 
     private static void end() {
@@ -253,6 +258,8 @@ public final class PayTest {
         duePay(year, "h", 15);
         duePay(year, "((((((c))))))*2-h", 169);
         duePay(year, "l>41&d=1?c*g", 368);
+        duePay(year, "1=((((((2))))))?3;((((((4))))))", 4);
+        duePay(year, "2=((((((2))))))?((((((3))))));5", 3);
     }
 
     private static void dueLine(CottageYear year, int i, int... want) {
