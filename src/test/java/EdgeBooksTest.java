@@ -144,6 +144,7 @@ public final class EdgeBooksTest {
         for (int booking : new int[] {-1, 1, 59, 60, LEAST, MOST}) {
             EDGE.none("booking " + booking, made, year -> year.lost(booking, 0));
         }
+        EDGE.none("a 61st", Years::full, year -> year.lost(60, 0));
         EDGE.sentence("37: NONE: none has begun");
         EDGE.none("not yet", EdgeBooksTest::notBegun, year -> year.lost(0, 0));
         EDGE.none("cancelled", () -> {
@@ -261,6 +262,7 @@ public final class EdgeBooksTest {
         for (int booking : new int[] {-1, 1, 59, 60, LEAST, MOST}) {
             EDGE.none("booking " + booking, () -> stay(1000, 2, 3, 5), year -> year.kept(booking));
         }
+        EDGE.none("a 61st", Years::full, year -> year.kept(60));
         EDGE.sentence("38: NONE: none has begun");
         EDGE.none("not yet", EdgeBooksTest::notBegun, year -> year.kept(0));
         EDGE.none("shut", EdgeBooksTest::shutOne, year -> year.kept(0));
@@ -303,6 +305,7 @@ public final class EdgeBooksTest {
         for (int booking : new int[] {-1, 9, 59, 60, LEAST, MOST}) {
             EDGE.refused("booking " + booking, Years::richDay, year -> year.complain(booking, 0), REFUSED);
         }
+        EDGE.refused("a 61st", Years::full, year -> year.complain(60, 0), REFUSED);
         EDGE.sentence("39: -2: kind");
         for (int kind : new int[] {-1, 4, 5, LEAST, MOST}) {
             EDGE.refused("kind " + kind, Years::richDay, year -> year.complain(0, kind), REFUSED);
@@ -407,6 +410,7 @@ public final class EdgeBooksTest {
         EDGE.none("none at all", CottageYear::new, year -> year.blamed(0, 0));
         due("the last team, the last kind", Years.rich().blamed(1, 3), 0);
         due("of three", threeTeams().blamed(2, 0), 0);
+        EDGE.none("a fourth", EdgeBooksTest::threeTeams, year -> year.blamed(3, 0));
     }
 
     private static CottageYear threeTeams() {
@@ -564,6 +568,7 @@ public final class EdgeBooksTest {
         for (int booking : new int[] {-1, 9, 59, 60, LEAST, MOST}) {
             EDGE.none("booking " + booking, Years::richDay, year -> year.code(booking));
         }
+        EDGE.none("a 61st", Years::full, year -> year.code(60));
         EDGE.sentence("42: NONE: none has begun");
         EDGE.none("of W, its day not opened", Years::rich, year -> year.code(4));
         EDGE.none("of a week to come", Years::richDay, year -> year.code(7));
@@ -616,6 +621,7 @@ public final class EdgeBooksTest {
             EDGE.isFalse("code " + code, made, year -> year.door(0, code, 0));
             EDGE.isFalse("no stay at all, code " + code, made, year -> year.door(2, code, 970));
         }
+        EDGE.isFalse("an eighth cottage", () -> sevenReady(0), year -> year.door(7, year.code(0), 0));
         EDGE.sentence("43: at a MINUTE of the open DAY, NOW or ahead");
         due("now", made.get().door(0, comes, 1000), true);
         for (int minute : new int[] {1001, 1440, 1441, LEAST, MOST}) {

@@ -140,6 +140,10 @@ public final class EdgeCottagesTest {
         due("there are seven", year.count(3), 7);
         EDGE.none("the eighth", () -> Years.alike(7), eighth -> eighth.cottage(5, true, 100, 50));
         due("the last one of seven is one", Years.alike(7).rent(6, 5), true);
+        EDGE.isFalse("no eighth to rent", () -> Years.alike(7), of -> of.rent(7, 5));
+        EDGE.none("no eighth to book", () -> Years.alike(7), of -> of.book(7, 0, 1, false, 0));
+        EDGE.isFalse("no eighth to shut", () -> Years.alike(7), of -> of.shut(7, 0, true));
+        EDGE.none("no eighth to look at", () -> Years.alike(7), of -> of.look(7, 0, 0, 0));
         due("six are not seven", Years.alike(6).cottage(5, true, 100, 50), 6);
     }
 
@@ -307,6 +311,10 @@ public final class EdgeCottagesTest {
         }, year -> year.book(0, 40, 1, false, 0));
         due("there are 60", bookings(60).count(4), 60);
         due("the last one is one", bookings(60).booked(59, 1), 8);
+        EDGE.none("no 61st is booked", () -> bookings(60), year -> year.booked(60, 0));
+        EDGE.none("no 61st is moved", () -> bookings(60), year -> year.moved(60));
+        EDGE.isFalse("no 61st is cancelled", () -> bookings(60), year -> year.cancel(60));
+        due("the 60th is cancelled", bookings(60).cancel(59), true);
         CottageYear year = new CottageYear();
         year.cottage(1, true, 1, 10);
         due("a refused one has no number", year.book(0, 0, 2, false, 0), NONE);

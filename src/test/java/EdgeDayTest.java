@@ -31,6 +31,7 @@ public final class EdgeDayTest {
         bestMovedEdges();
         bestOrder();
         bestFromWhereAndWhen();
+        bestAsToldNow();
         planEdges();
         rowEdges();
         rowsOfSeven();
@@ -384,6 +385,7 @@ public final class EdgeDayTest {
         EDGE.isFalse("a cottage without a job", EdgeDayTest::withoutJob, year -> year.late(1, 700));
         EDGE.isFalse("a job of the week ahead", EdgeDayTest::jobAhead, year -> year.late(0, 700));
         due("the last of seven", jobs(7, 12).late(6, 700), true);
+        EDGE.isFalse("an eighth", () -> jobs(7, 12), year -> year.late(7, 700));
     }
 
     /** COTTAGE 0 has a JOB; COTTAGE 1, to which one comes, has none. */
@@ -459,6 +461,7 @@ public final class EdgeDayTest {
         EDGE.isFalse("a cottage without a job", EdgeDayTest::withoutJob, year -> year.state(1, 70));
         EDGE.isFalse("a job of the week ahead", EdgeDayTest::jobAhead, year -> year.state(0, 70));
         due("the last of seven", jobs(7, 12).state(6, 70), true);
+        EDGE.isFalse("an eighth", () -> jobs(7, 12), year -> year.state(7, 70));
         EDGE.sentence("18: False: it was begun");
         Supplier<CottageYear> planned = () -> {
             CottageYear year = jobs(2, 12);
@@ -655,6 +658,51 @@ public final class EdgeDayTest {
         due("waits, out now, cleans till 938", waits.best(0), 1);
     }
 
+    private static void bestAsToldNow() {
+        EDGE.sentence("19: (as all is told NOW), asked again behind each call that changes it");
+        CottageYear year = Years.till(jobs(1, 12), 937);
+        due("there at 947, ready at 960", year.best(0), 0);
+        year.tick(1);
+        due("a minute later", year.best(0), 1);
+        year.tick(0);
+        due("no minute later", year.best(0), 1);
+        year.tick(2);
+        due("two minutes later", year.best(0), 3);
+        year.state(0, 14);
+        due("a minute more to clean", year.best(0), 4);
+        year.way(0, 1, 11);
+        due("a minute more to go", year.best(0), 5);
+        year.late(0, 952);
+        due("guests who leave a minute later", year.best(0), 6);
+        CottageYear base = loading();
+        due("loading", base.best(2), 35);
+        base.rest(6);
+        due("a minute more to load", base.best(2), 36);
+        CottageYear plan = jobs(2, 12, 12);
+        due("ways", plan.best(2), 20);
+        plan.plan();
+        plan.state(0, 350);
+        due("one is moved", plan.best(1), 1);
+        plan.plan();
+        due("not against the new plan", plan.best(1), 0);
+        plan.tick(1);
+        due("none is left to go to", plan.best(2), 0);
+        plan.closeDay();
+        plan.openDay();
+        due("on a new day: two jobs", plan.best(2), 20);
+        CottageYear idle = Years.alike(1);
+        idle.team(12);
+        idle.book(0, 0, 1, false, 0);
+        idle.openDay();
+        due("no job", idle.best(2), 0);
+        idle.closeDay();
+        idle.openDay();
+        due("on the next day a job", idle.best(2), 10);
+        idle.closeDay();
+        idle.openDay();
+        due("on the next day none", idle.best(2), 0);
+    }
+
     private static void planEdges() {
         EDGE.sentence("20: False: no DAY open");
         EDGE.isFalse("a new year", CottageYear::new, CottageYear::plan);
@@ -698,6 +746,7 @@ public final class EdgeDayTest {
         for (int team : new int[] {-1, 2, 3, LEAST, MOST}) {
             EDGE.none("team " + team, planned, year -> year.row(team, 0));
         }
+        EDGE.none("a fourth", () -> jobs(1, 12, 12, 12), year -> year.row(3, 0));
         EDGE.sentence("21: NONE: no DAY open");
         EDGE.none("closed", () -> {
             CottageYear year = planned.get();
@@ -807,6 +856,7 @@ public final class EdgeDayTest {
             EDGE.refused("team " + team, day, year -> Years.about(year, team, 0), Years.THROWN);
         }
         EDGE.refused("none at all", () -> jobs(1), year -> Years.about(year, 0, 0), Years.THROWN);
+        EDGE.refused("a fourth", () -> jobs(1, 12, 12, 12), year -> Years.about(year, 3, 0), Years.THROWN);
         due("the last team", Years.about(Years.richDay(), 1, 3), 15);
         EDGE.sentence("23: NoSuchElementException: what");
         for (int what : new int[] {-1, 6, 7, LEAST, MOST}) {
@@ -849,6 +899,7 @@ public final class EdgeDayTest {
         for (int cottage : new int[] {-1, 3, 6, 7, LEAST, MOST}) {
             EDGE.none("cottage " + cottage, Years::richDay, year -> year.job(2, cottage, 0));
         }
+        EDGE.none("an eighth", () -> jobs(7, 12), year -> year.job(1, 7, 0));
         EDGE.none("a cottage without a job", EdgeDayTest::withoutJob, year -> year.job(1, 1, 0));
         for (int what : new int[] {-1, 10, 11, LEAST, MOST}) {
             EDGE.none("what " + what, Years::richDay, year -> year.job(2, 0, what));

@@ -47,6 +47,7 @@ public final class ExtremesTest {
         states.add(Years::richEvening);
         states.add(Years::richOver);
         states.add(() -> Years.alike(7));
+        states.add(Years::full);
         return states;
     }
 

@@ -3,7 +3,7 @@ import java.util.List;
 import java.util.NoSuchElementException;
 import java.util.function.Function;
 
-/** What can be seen of a year, in looks of some 350 calls at most; some of them use the year up. */
+/** What can be seen of a year, in looks of some 250 calls at most; some of them use the year up. */
 final class Seen {
     private final CottageYear year;
     private final List<String> answers = new ArrayList<>();
@@ -15,9 +15,10 @@ final class Seen {
     static List<Function<CottageYear, List<String>>> looks() {
         List<Function<CottageYear, List<String>>> looks = new ArrayList<>();
         looks.add(year -> new Seen(year).counts());
-        looks.add(year -> new Seen(year).bookings(0));
-        looks.add(year -> new Seen(year).bookings(20));
-        looks.add(year -> new Seen(year).bookings(40));
+        for (int first = 0; first < 60; first += 10) {
+            int from = first;
+            looks.add(year -> new Seen(year).bookings(from));
+        }
         looks.add(year -> new Seen(year).jobs());
         looks.add(year -> new Seen(year).weeks());
         looks.add(year -> new Seen(year).wages());
@@ -80,7 +81,7 @@ final class Seen {
     }
 
     private List<String> bookings(int first) {
-        for (int i = first; i < first + 20 && i < year.count(4); i++) {
+        for (int i = first; i < first + 10 && i < year.count(4); i++) {
             for (int what = 0; what < 10; what++) {
                 add("booked(" + i + ", " + what + ")", year.booked(i, what));
             }

@@ -88,7 +88,34 @@ final class Years {
         return till(richDay(), 1100);
     }
 
-    /** The same, W is 52. */
+    /** As many of all as there may be; W is 1, its DAY open, all JOBS READY. */
+    static CottageYear full() {
+        CottageYear year = alike(7);
+        for (int i = 0; i < 3; i++) {
+            year.team(30);
+        }
+        for (int i = 0; i < 60; i++) {
+            year.book(i % 7, i / 7, 1, false, 100);
+        }
+        for (int i = 0; i < 20; i++) {
+            Check.feed(year, "c");
+            year.terms(i);
+        }
+        for (int i = 0; i < 60; i++) {
+            year.look(i % 7, 60 - i, 50, 50);
+        }
+        Check.feed(year, "c+c+c+c+c+c+c+c+c+c+".repeat(6));
+        Check.pass(year, 1);
+        year.openDay();
+        year.plan();
+        till(year, 1440);
+        for (int i = 0; i < 60; i++) {
+            year.complain(7 + i % 7, i % 4);
+        }
+        return year;
+    }
+
+    /** The same as rich, W is 52. */
     static CottageYear richOver() {
         return at(rich(), 52);
     }
