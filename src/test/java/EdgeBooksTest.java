@@ -612,6 +612,22 @@ public final class EdgeBooksTest {
             year.closeDay();
             return year;
         }, year -> year.door(0, comes, 960));
+        for (int minute : new int[] {0, 899, 1000}) {
+            for (int code : new int[] {leaves, comes}) {
+                EDGE.isFalse("behind the day, code " + code + " at " + minute, () -> {
+                    CottageYear year = oneReady(900);
+                    year.closeDay();
+                    return year;
+                }, year -> year.door(0, code, minute));
+                EDGE.isFalse("the year is over, code " + code + " at " + minute, () -> {
+                    CottageYear year = oneReady(900);
+                    year.closeDay();
+                    return Years.at(year, 52);
+                }, year -> year.door(0, code, minute));
+            }
+        }
+        EDGE.isFalse("the last day was closed", EdgeBooksTest::lastDayClosed, year -> year.door(0, year.code(0), 0));
+        EDGE.isFalse("the last day was closed", EdgeBooksTest::lastDayClosed, year -> year.door(0, year.code(1), 960));
         EDGE.sentence("43: False also: no such ones");
         for (int cottage : new int[] {-1, 3, 6, 7, LEAST, MOST}) {
             EDGE.isFalse("cottage " + cottage, made, year -> year.door(cottage, comes, 970));
@@ -639,6 +655,21 @@ public final class EdgeBooksTest {
         due("not at 1", early.door(0, early.code(0), 1), false);
         early.tick(1);
         due("now, at 1", early.door(0, early.code(0), 1), true);
+    }
+
+    /** A STAY left on the DAY of WEEK 51, and one came; that DAY was closed at 1,000. */
+    private static CottageYear lastDayClosed() {
+        CottageYear year = Years.alike(1);
+        year.team(12);
+        year.book(0, 50, 1, false, 0);
+        year.book(0, 51, 1, false, 0);
+        Years.at(year, 51);
+        year.openDay();
+        year.plan();
+        Years.till(year, 1000);
+        due("open till the last day is closed", year.door(0, year.code(0), 0) && year.door(0, year.code(1), 960), true);
+        year.closeDay();
+        return year;
     }
 
     private static void doorOfWhoLeaves() {

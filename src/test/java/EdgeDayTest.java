@@ -29,6 +29,7 @@ public final class EdgeDayTest {
         bestLateByAMinute();
         bestLinenByASet();
         bestMovedEdges();
+        bestAllAtOnce();
         bestOrder();
         bestFromWhereAndWhen();
         bestAsToldNow();
@@ -596,6 +597,56 @@ public final class EdgeDayTest {
         due("those in no row do not count", none.best(1), 0);
     }
 
+    private static void dueBest(String when, CottageYear year, int... want) {
+        for (int what = 0; what < 3; what++) {
+            due(when + ": best(" + what + ")", year.best(what), want[what]);
+        }
+    }
+
+    /** The TEAM 0 of two goes to COTTAGE 0 and will clean there till 1,000; all others are in its row. */
+    private static CottageYear heldUp(int many) {
+        CottageYear year = jobs(many, 30, 30);
+        year.plan();
+        year.tick(1);
+        year.state(0, 400);
+        return year;
+    }
+
+    private static void bestAllAtOnce() {
+        EDGE.sentence("19: What BEST costs: 0 LATE, 1 MOVED, 2 minutes");
+        for (int late = 0; late < 4; late++) {
+            CottageYear year = jobs(2, 12, 12);
+            year.plan();
+            year.state(0, 360 + late);
+            dueBest(late + " late, the other cottage is moved", year, late, 1, 20);
+        }
+        for (int many = 1; many <= 7; many++) {
+            dueBest("all but one of " + many + " are moved", heldUp(many), 0, many - 1, 10 * (many - 1));
+        }
+        CottageYear most = Years.alike(7);
+        most.team(12);
+        most.rest(60);
+        for (int c = 0; c < 7; c++) {
+            most.book(c, 0, 1, false, 0);
+            most.book(c, 1, 12, false, 0);
+            for (int place = 0; place <= c; place++) {
+                most.way(place, 1 + c, 90);
+            }
+        }
+        Check.pass(most, 1);
+        opened(most);
+        Years.till(most, 1440);
+        for (int c = 0; c < 7; c++) {
+            most.late(c, 1440);
+            most.state(c, 400);
+        }
+        int late = 0;
+        for (int i = 0; i < 7; i++) {
+            late += 1440 + 90 + 400 + i * (90 + 60 + 90 + 400) - 960;
+        }
+        dueBest("the most that seven can cost", most, late, 0, 90 + 6 * 240);
+    }
+
     private static void bestOrder() {
         EDGE.sentence("19: TEAM after TEAM, a COTTAGE rather than its end, then the lower COTTAGE");
         CottageYear year = jobs(1, 12, 12, 12);
@@ -656,6 +707,22 @@ public final class EdgeDayTest {
         due("waits, out now, cleans till 937", waits.best(0), 0);
         waits.state(0, 348);
         due("waits, out now, cleans till 938", waits.best(0), 1);
+        CottageYear onItsWay = jobs(2, 12);
+        onItsWay.way(0, 1, 90);
+        onItsWay.way(0, 2, 90);
+        onItsWay.state(1, 46);
+        Years.till(onItsWay, 800);
+        onItsWay.plan();
+        onItsWay.tick(1);
+        due("on its way to the first", Years.about(onItsWay, 0, 1), 0);
+        due("there at 891, ready at 904, at the second at 914, ready at 960", onItsWay.best(0), 0);
+        onItsWay.state(1, 47);
+        due("ready at 961", onItsWay.best(0), 1);
+        onItsWay.state(1, 46);
+        onItsWay.late(0, 891);
+        due("out as it is there", onItsWay.best(0), 0);
+        onItsWay.late(0, 892);
+        due("out a minute later", onItsWay.best(0), 1);
     }
 
     private static void bestAsToldNow() {
@@ -724,6 +791,16 @@ public final class EdgeDayTest {
         due("it stays till it is planned anew", year.row(0, 0), 0);
         year.plan();
         due("planned anew", year.row(0, 0), 1);
+        CottageYear held = heldUp(3);
+        due("in the first row", held.row(0, 1), 2);
+        due("none in the second", held.row(1, 0), NONE);
+        held.plan();
+        due("then none is in the first row", held.row(0, 0), NONE);
+        due("nor behind that", held.row(0, 1), NONE);
+        due("but all in the second", held.row(1, 0), 1);
+        due("but all in the second", held.row(1, 1), 2);
+        Years.till(held, 1000);
+        due("and the second team went", held.job(1, 2, 7), 1);
     }
 
     private static void rowEdges() {

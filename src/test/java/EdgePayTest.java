@@ -21,6 +21,7 @@ public final class EdgePayTest {
         faultOfBrackets();
         faultOfBlanks();
         faultOfLongTexts();
+        faultAnew();
         termsRefused();
         termsMany();
         forceWeeks();
@@ -102,8 +103,21 @@ public final class EdgePayTest {
             EDGE.none("117 and four of number " + i, () -> bytes(117),
                 year -> year.feed(at == 0 ? -1 : 0, at == 1 ? -1 : 0, at == 2 ? -1 : 0, at == 3 ? -1 : 0, at == 4 ? -1 : 0));
         }
+        for (int one : new int[] {1, 8, 49, 128, 255}) {
+            for (int i = 0; i < 20; i++) {
+                due("119 and one of twenty: byte " + one + " at " + i, feedOne(bytes(119), one, i), 120);
+                due("120 and one of twenty: byte " + one + " at " + i, feedOne(bytes(120), one, i), NONE);
+            }
+        }
         due("while a day is open", Years.richDay().feed('1', 0, 0, 0, 0), 4);
         due("when the year is over", Years.richOver().feed('1', 0, 0, 0, 0), 4);
+    }
+
+    /** Feeds twenty bytes, all 0 but one at a place. */
+    private static int feedOne(CottageYear year, int one, int place) {
+        int[] words = new int[5];
+        words[place / 4] = one << 8 * (3 - place % 4);
+        return year.feed(words[0], words[1], words[2], words[3], words[4]);
     }
 
     private static void endEdges() {
@@ -125,6 +139,19 @@ public final class EdgePayTest {
         due("it has none", year.count(14), 0);
         due("then others come", year.feed('c', 0, 0, 0, 0), 1);
         due("the ones ahead are gone", year.fault(), NONE);
+        due("1234 but two digits", payByFirst("1234", 2), 12);
+        due("5+7 but the sum", payByFirst("5+7", 1), 5);
+        due("5;7 but the clause behind", payByFirst("1=2?5;7", 5), 0);
+        due("5 and blanks, but the sum behind them", payByFirst("5   *2", 2), 5);
+    }
+
+    /** What the first n bytes of a TEXT pay. */
+    private static int payByFirst(String text, int n) {
+        CottageYear year = oneReady();
+        Check.tape(year, text);
+        year.end(n);
+        year.terms(0);
+        return year.pay(0, 1, 0);
     }
 
     private static void dueFault(String text, int want) {
@@ -314,6 +341,22 @@ public final class EdgePayTest {
         due("120", year.fault(), NONE);
         EDGE.refused("asking changes nothing", () -> bytes(120), CottageYear::fault, 120);
         due("when the year is over", Years.richOver().fault(), NONE);
+    }
+
+    /** Nothing of the TEXT asked about ahead stays: no ( that is open, no digits, no half a CLAUSE. */
+    private static void faultAnew() {
+        EDGE.sentence("30: The FAULT of the TAPE as it is now");
+        String[] texts = {"", "c", "(c", "((((((", "12", "1234", "12345", "c+", "c>1", "c>1&", "c>1?", "c>1?2", "c;", " ", "c ", "x", "(1)"};
+        int[] faults = {0, NONE, 2, 6, NONE, NONE, 4, 2, 3, 4, 4, NONE, 2, 1, NONE, 0, NONE};
+        for (int one = 0; one < texts.length; one++) {
+            for (int other = 0; other < texts.length; other++) {
+                CottageYear of = tape(texts[one]);
+                due("fault of '" + texts[one] + "'", of.fault(), faults[one]);
+                due("asked again", of.fault(), faults[one]);
+                Check.tape(of, texts[other]);
+                due("fault of '" + texts[other] + "' behind that", of.fault(), faults[other]);
+            }
+        }
     }
 
     private static void termsRefused() {
