@@ -1071,6 +1071,7 @@ public final class CottageYear {
         private static final int SETS = 1 << MOST_JOBS;
         private static final int LABELS = 4;
         private static final long FAR = 1L << 60;
+        private static final int NEVER = 1 << 30;
         /** A cost is LATE, then MOVED, then minutes, in one number. */
         private static final int LATE_SHIFT = 16;
         private static final int MOVED_SHIFT = 12;
@@ -1236,7 +1237,7 @@ public final class CottageYear {
         private int takeSoonest(Team[] teams, int open) {
             int soonest = 0;
             int by = 0;
-            int least = Integer.MAX_VALUE;
+            int least = NEVER;
             for (int k = 0; k < todoCount; k++) {
                 for (int t = 0; t < teamCount && (open >>> k & 1) != 0; t++) {
                     putBehind(teams[t], t, MOST_TEAMS, k);
